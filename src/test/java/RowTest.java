@@ -17,6 +17,7 @@ public final class RowTest {
         guards();
         lives();
         odds();
+        whatWasTriedIsGone();
         CHECKS.end();
     }
 
@@ -238,5 +239,26 @@ public final class RowTest {
         due("21 out below", x.odds(0, -1, 0), ActRows.LOST);
         due("21 which above", x.odds(0, 0, 2), ActRows.LOST);
         due("21 which below", x.odds(0, 0, -1), ActRows.LOST);
+    }
+
+    /** A call that tries functions otherwise than they are leaves nothing of that to the next. */
+    private static void whatWasTriedIsGone() {
+        ActRows x = Checks.with("e;p0ab");
+        x.reading(0, 0);
+        x.kinds(0);
+        due("20 behind kinds", x.lives(), 0xAAAA);
+        x.kinds(0);
+        due("3 may behind kinds", x.ofFunction(0, 4), 3);
+        x.kinds(0);
+        due("3 row behind kinds", x.ofFunction(0, 3), 3);
+        x.plugs(0);
+        due("8 behind plugs", x.run(0, 0), 0);
+        x.lives();
+        due("8 behind lives", x.run(0, 0), 0);
+        ActRows y = Checks.with("e;p0;p0d");
+        due("3 row of the longer one", y.ofFunction(1, 3), 8);
+        Checks.take(y, "e;p0a");
+        Checks.write(y, 1, 2, 0, 5);
+        due("11 rows of the shorter one", y.day(1, 2, 0, 1, 4), 1);
     }
 }
