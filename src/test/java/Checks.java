@@ -27,8 +27,13 @@ final class Checks {
     /** Puts a text into a new row of a sheet. */
     static void write(ActRows x, int sheet, int lane, String text) {
         x.sheet(sheet, lane, text.length());
+        put(x, sheet, 0, text);
+    }
+
+    /** Puts a text into the cells of a sheet from a place on. */
+    static void put(ActRows x, int sheet, int from, String text) {
         for (int i = 0; i < text.length(); i++) {
-            x.put(sheet, i, text.charAt(i));
+            x.put(sheet, from + i, text.charAt(i));
         }
     }
 
