@@ -243,9 +243,7 @@ public final class ActRows {
             return UNKNOWN;
         }
         trial.begin();
-        int beyondAll = MOST_FUNCTIONS + 1;
-        int fewest = trial.fewestPlugs(f, 0, 0, beyondAll);
-        return fewest == beyondAll ? NONE : fewest;
+        return trial.plugsOf(f);
     }
 
     public int more(int f, int g) {
@@ -955,11 +953,17 @@ public final class ActRows {
             return sets;
         }
 
+        int plugsOf(int f) {
+            int beyondAll = MOST_FUNCTIONS + 1;
+            int fewest = fewestPlugs(f, 0, 0, beyondAll);
+            return fewest == beyondAll ? NONE : fewest;
+        }
+
         /**
          * Goes through all ways in which the functions from at to f stay or become keeping ones,
          * behind those ahead of at, of which used have become such; best is the fewest found so far.
          */
-        int fewestPlugs(int f, int at, int used, int best) {
+        private int fewestPlugs(int f, int at, int used, int best) {
             if (used >= best) {
                 return best;
             }
@@ -1101,7 +1105,8 @@ public final class ActRows {
         boolean areSo(Trial trial) {
             trial.settleAll();
             for (int k = 0; k < count; k++) {
-                if (trial.outs[functions[k]] != outs[k]) {
+                int f = functions[k];
+                if (!trial.program.has(f) || trial.outs[f] != outs[k]) {
                     return false;
                 }
             }

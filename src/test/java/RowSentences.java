@@ -107,8 +107,13 @@ final class RowSentences {
             plugsOf("e;p0a;p00b", 15, 1, 2);
             plugsOf("e;p0a;p0b;p0c;p0d;p00123", 15, 4, 4);
             plugsOf("e;p0a;p0b;p0c;p0d;p00123", 7, 4, 3);
+            // each has an act of its own that those that call it can't keep behind, too
+            plugsOf("e;p0b;p0c;p001d;p0b;p023a", 15, 4, 5);
             // functions that are not called do not count
             plugsOf("e;p0a;p0b;p0c", 15, 2, 1);
+            // kept behind one act, so that another comes out at which the one that calls leaves off
+            plugsOf("e;p0ba;l00c", 15, 1, 1);
+            plugsOf("e;l1bc;l20ad", 15, 1, 1);
             // a guard of a keeping one that is turned
             plugsOf("e;k1a", 15, 0, 1);
         });

@@ -350,7 +350,11 @@ final class RunSentences {
                 day("of " + n, x, n, 4, due[n]);
             }
             day("no steps", dayOf("e;p0"), 0, 4, 0);
-            day("all acts", dayOf("e;p0a;p0;l1bc;k0cd"), 0, 4, 13);
+            day("of four", dayOf("e;p0a;p0;l1bc;k0cd"), 0, 4, 13);
+            ActRows most = dayOf("e;p0;p0a;p0b;p0c;p0d");
+            day("of the most", most, 0, 4, 15);
+            Checks.take(most, "e;p0;p0b");
+            day("of fewer, told behind them", most, 0, 4, 2);
         });
         s.of("11", "the ACT that FUNCTION f GUARDS against then (10 and f; NONE: there is no such FUNCTION);", () -> {
             ActRows x = dayOf("e;p0;l1;k2", 3, 6, 0, 8);
